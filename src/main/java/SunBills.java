@@ -757,7 +757,7 @@ public final class SunBills {
     }
 
     private static boolean isAmong(int number, int bits) {
-        return (bits >> number & 1) == 1;
+        return ((bits >> number) & 1) == 1;
     }
 
     private boolean isKind(int kind) {
@@ -949,7 +949,7 @@ public final class SunBills {
                     }
                     heap[top] = operand(code, names);
                     top++;
-                } else if (code == SIGNS + Reader.NOT) {
+                } else if (code == SIGNS + Tokens.NOT) {
                     if (top < 1) {
                         return ERROR;
                     }
@@ -979,27 +979,27 @@ public final class SunBills {
 
         private static long joined(int sign, long left, long right) {
             switch (sign) {
-                case Reader.OR:
+                case Tokens.OR:
                     return truth(left != 0 || right != 0);
-                case Reader.AND:
+                case Tokens.AND:
                     return truth(left != 0 && right != 0);
-                case Reader.LESS:
+                case Tokens.LESS:
                     return truth(left < right);
-                case Reader.AT_MOST:
+                case Tokens.AT_MOST:
                     return truth(left <= right);
-                case Reader.SAME:
+                case Tokens.SAME:
                     return truth(left == right);
-                case Reader.OTHER:
+                case Tokens.OTHER:
                     return truth(left != right);
-                case Reader.AT_LEAST:
+                case Tokens.AT_LEAST:
                     return truth(left >= right);
-                case Reader.MORE:
+                case Tokens.MORE:
                     return truth(left > right);
-                case Reader.PLUS:
+                case Tokens.PLUS:
                     return limited(left + right);
-                case Reader.MINUS:
+                case Tokens.MINUS:
                     return limited(left - right);
-                case Reader.TIMES:
+                case Tokens.TIMES:
                     return product(left, right);
                 default:
                     return right == 0 ? ERROR : left / right;
@@ -1021,9 +1021,9 @@ public final class SunBills {
         }
     }
 
-    // ---- reading a TEXT
+    // ---- the TOKENS of a TEXT
 
-    private static final class Reader {
+    private static final class Tokens {
         /** The words of the language, six signs each, numbered as TOKENS are. */
         static final String WORDS = "kind  house day   work  term  seed  law   look  use   price or    and   not   worth eager purse bill  used  weightdate  ";
         static final int WORD_COUNT = 20;
@@ -1061,37 +1061,21 @@ public final class SunBills {
         static final int END = 35;
         static final int NO_TOKEN = 36;
 
-        static final int CANT_STAND = 1;
-        static final int TOO_MUCH = 2;
-        static final int TOLD_ALREADY = 3;
-        static final int NOT_TOLD = 4;
-
-        static final int COMPARING = 4;
-        static final int MOST_OPEN = 8;
-        static final int MOST_DAYS = 20;
         /** Above all that a number may be, so that more digits need not be told apart. */
         static final int HUGE = 1000000;
 
         final byte[] bytes;
         final int[] words = new int[WORD_COUNT];
-        /** Signs whose right side isn't read yet, and each '(' that is open. */
-        final int[] waiting = new int[Laws.KNOTS + MOST_OPEN];
-        int waitings;
-        int open;
         int length;
         int at;
-        int place;
+        /** The latest TOKEN, where it begins, and its number or letters. */
         int token;
+        int place;
         int value;
-        int lines;
-        int faultNumber;
-        int faultPlace = NONE;
-        Book into;
 
-        Reader(byte[] bytes, Book into) {
+        Tokens(byte[] bytes) {
             this.bytes = bytes;
-            this.into = into;
-            for (int i = 0; i < WORDS.length(); i++) {
+            for (int i = 0; i < WORDS.length() && i < WORD_COUNT * LONGEST; i++) {
                 char sign = WORDS.charAt(i);
                 if (sign != ' ') {
                     words[i / LONGEST] |= letter(sign, i % LONGEST);
@@ -1101,329 +1085,17 @@ public final class SunBills {
 
         /** A letter of a word, five bits, the first one highest. */
         private static int letter(int sign, int i) {
-            return sign - 'a' + 1 << 5 * (LONGEST - 1 - i);
+            return (sign - 'a' + 1) << (5 * (LONGEST - 1 - i));
         }
 
-        boolean read(int n, Book draft) {
-            into = draft;
-            into.clear();
+        void begin(int n) {
             length = n;
             at = 0;
-            lines = 0;
-            faultNumber = 0;
-            faultPlace = NONE;
-            step();
-            while (token != END && lines < TAPE_BYTES) {
-                if (!readLine()) {
-                    return false;
-                }
-                lines++;
-                step();
-            }
-            into.settle();
-            return true;
         }
 
-        private boolean readLine() {
-            switch (token) {
-                case KIND:
-                    return readKind() && isEnd();
-                case HOUSE:
-                    return readHouse() && isEnd();
-                case DAY:
-                    return readDay() && isEnd();
-                case WORK:
-                    return readWork() && isEnd();
-                case TERM:
-                    return readTerm() && isEnd();
-                case SEED:
-                    return readSeed() && isEnd();
-                case LAW:
-                    return readLaw();
-                default:
-                    return fails(CANT_STAND);
-            }
-        }
-
-        private boolean fails(int number) {
-            faultNumber = number;
-            faultPlace = place;
-            return false;
-        }
-
-        private boolean isEnd() {
-            step();
-            return token == SEMICOLON || fails(CANT_STAND);
-        }
-
-        private boolean isWord() {
-            step();
-            return token == OWN_WORD || fails(CANT_STAND);
-        }
-
-        private boolean isNumber(int least, int most) {
-            step();
-            if (token != NUMBER) {
-                return fails(CANT_STAND);
-            }
-            return isWithin(value, least, most) || fails(TOO_MUCH);
-        }
-
-        private boolean readKind() {
-            int kind = into.kinds;
-            if (kind >= MOST) {
-                return fails(TOO_MUCH);
-            }
-            if (!isWord()) {
-                return false;
-            }
-            if (into.kindNamed(value) != NONE) {
-                return fails(TOLD_ALREADY);
-            }
-            into.kindLetters[kind] = value;
-            if (!isNumber(0, 99)) {
-                return false;
-            }
-            into.worth[kind] = value;
-            if (!isNumber(0, 99)) {
-                return false;
-            }
-            into.weight[kind] = value;
-            into.kinds++;
-            return true;
-        }
-
-        private boolean readHouse() {
-            int house = into.houses;
-            if (house >= MOST) {
-                return fails(TOO_MUCH);
-            }
-            if (!isWord()) {
-                return false;
-            }
-            if (into.houseNamed(value) != NONE) {
-                return fails(TOLD_ALREADY);
-            }
-            into.houseLetters[house] = value;
-            if (!isNumber(0, 999)) {
-                return false;
-            }
-            into.purse[house] = value;
-            if (!isNumber(0, 9)) {
-                return false;
-            }
-            into.eager[house] = value;
-            if (!isNumber(0, 99)) {
-                return false;
-            }
-            into.earns[house] = value;
-            into.houses++;
-            return true;
-        }
-
-        private boolean readDay() {
-            if (into.toldDays >= MOST_DAYS) {
-                return fails(TOO_MUCH);
-            }
-            if (!isNumber(0, TOLD_DAYS - 1)) {
-                return false;
-            }
-            int day = value;
-            if (into.kindTold(day) != NONE) {
-                return fails(TOLD_ALREADY);
-            }
-            if (!isWord()) {
-                return false;
-            }
-            int kind = into.kindNamed(value);
-            if (kind == NONE) {
-                return fails(NOT_TOLD);
-            }
-            into.told[day] = kind;
-            into.toldDays++;
-            return true;
-        }
-
-        private boolean readWork() {
-            int work = into.works;
-            if (work >= MOST) {
-                return fails(TOO_MUCH);
-            }
-            if (!isWord()) {
-                return false;
-            }
-            into.workHouse[work] = into.houseNamed(value);
-            if (into.workHouse[work] == NONE) {
-                return fails(NOT_TOLD);
-            }
-            if (!isWord()) {
-                return false;
-            }
-            into.workKind[work] = into.kindNamed(value);
-            if (into.workKind[work] == NONE) {
-                return fails(NOT_TOLD);
-            }
-            into.works++;
-            return true;
-        }
-
-        private boolean readTerm() {
-            if (into.term != NONE) {
-                return fails(TOLD_ALREADY);
-            }
-            if (!isNumber(1, 99)) {
-                return false;
-            }
-            into.term = value;
-            return true;
-        }
-
-        private boolean readSeed() {
-            if (into.seed != NONE) {
-                return fails(TOLD_ALREADY);
-            }
-            if (!isNumber(0, 99999)) {
-                return false;
-            }
-            into.seed = value;
-            return true;
-        }
-
-        private boolean readLaw() {
-            step();
-            if (token < LOOK || token > PRICE) {
-                return fails(CANT_STAND);
-            }
-            int law = token - LOOK;
-            if (into.laws.has(law)) {
-                return fails(TOLD_ALREADY);
-            }
-            into.laws.begin(law);
-            if (!readFormula()) {
-                return false;
-            }
-            into.laws.end(law);
-            return true;
-        }
-
-        /** E and the ';' behind it: by turns what stands for a value and what stands between two. */
-        private boolean readFormula() {
-            waitings = 0;
-            open = 0;
-            boolean valued = false;
-            for (int i = 0; i < TAPE_BYTES; i++) {
-                step();
-                if (valued && token == SEMICOLON && open == 0) {
-                    release(1);
-                    return true;
-                }
-                boolean fitting = valued ? readBehindValue() : readValue();
-                if (!fitting) {
-                    return false;
-                }
-                valued = token == NUMBER || token == CLOSE || isName();
-            }
-            return fails(CANT_STAND);
-        }
-
-        private boolean isName() {
+        boolean isName() {
             return token >= WORTH && token <= DATE;
         }
-
-        /** A number, a NAME, a '(' or a not. */
-        private boolean readValue() {
-            if (token == NUMBER) {
-                return isKnot() && (value <= 9999 || fails(TOO_MUCH)) && puts(value);
-            }
-            if (isName()) {
-                return isKnot() && puts(Laws.NAMED + token - WORTH);
-            }
-            if (token == OPEN) {
-                if (open >= MOST_OPEN) {
-                    return fails(TOO_MUCH);
-                }
-                open++;
-                return holds(OPEN);
-            }
-            if (token == NOT && rankOfLatest() < COMPARING) {
-                return isKnot() && holds(NOT);
-            }
-            return fails(CANT_STAND);
-        }
-
-        /** A sign between two values, or a ')'. */
-        private boolean readBehindValue() {
-            if (token == CLOSE && open > 0) {
-                release(1);
-                waitings--;
-                open--;
-                return true;
-            }
-            int rank = rankOf(token);
-            if (rank == 0 || token == NOT) {
-                return fails(CANT_STAND);
-            }
-            release(rank == COMPARING ? COMPARING + 1 : rank);
-            if (rank == COMPARING && rankOfLatest() == COMPARING) {
-                return fails(CANT_STAND);
-            }
-            return isKnot() && holds(token);
-        }
-
-        private boolean isKnot() {
-            if (into.laws.knots >= Laws.KNOTS) {
-                return fails(TOO_MUCH);
-            }
-            into.laws.knots++;
-            return true;
-        }
-
-        private boolean puts(int code) {
-            into.laws.add(code);
-            return true;
-        }
-
-        private boolean holds(int sign) {
-            if (waitings < waiting.length) {
-                waiting[waitings] = sign;
-                waitings++;
-            }
-            return true;
-        }
-
-        private int rankOfLatest() {
-            return waitings > 0 ? rankOf(waiting[waitings - 1]) : 0;
-        }
-
-        /** The waiting signs that bind as much as this, or more, have their right side now. */
-        private void release(int rank) {
-            while (waitings > 0 && rankOf(waiting[waitings - 1]) >= rank) {
-                waitings--;
-                into.laws.add(Laws.SIGNS + waiting[waitings]);
-            }
-        }
-
-        /** How much a sign binds; 0 of what is none, a '(' too. */
-        private static int rankOf(int sign) {
-            switch (sign) {
-                case OR:
-                    return 1;
-                case AND:
-                    return 2;
-                case NOT:
-                    return 3;
-                case PLUS:
-                case MINUS:
-                    return 5;
-                case TIMES:
-                case BY:
-                    return 6;
-                default:
-                    return sign >= LESS && sign <= MORE ? COMPARING : 0;
-            }
-        }
-
-        // the TOKENS
 
         private int signAt(int i) {
             return i >= 0 && i < length && i < bytes.length ? bytes[i] & 255 : 0;
@@ -1437,7 +1109,7 @@ public final class SunBills {
             return sign >= '0' && sign <= '9';
         }
 
-        private void step() {
+        void step() {
             while (at < length && (signAt(at) == ' ' || signAt(at) == 10)) {
                 at++;
             }
@@ -1510,6 +1182,348 @@ public final class SunBills {
                     return BY;
                 default:
                     return NO_TOKEN;
+            }
+        }
+    }
+
+    // ---- reading a TEXT
+
+    private static final class Reader {
+        static final int CANT_STAND = 1;
+        static final int TOO_MUCH = 2;
+        static final int TOLD_ALREADY = 3;
+        static final int NOT_TOLD = 4;
+
+        static final int COMPARING = 4;
+        static final int MOST_OPEN = 8;
+        static final int MOST_DAYS = 20;
+
+        final Tokens tokens;
+        /** Signs whose right side isn't read yet, and each '(' that is open. */
+        final int[] waiting = new int[Laws.KNOTS + MOST_OPEN];
+        int waitings;
+        int open;
+        int lines;
+        int faultNumber;
+        int faultPlace = NONE;
+        Book into;
+
+        Reader(byte[] bytes, Book into) {
+            this.tokens = new Tokens(bytes);
+            this.into = into;
+        }
+
+        boolean read(int n, Book draft) {
+            into = draft;
+            into.clear();
+            tokens.begin(n);
+            lines = 0;
+            faultNumber = 0;
+            faultPlace = NONE;
+            tokens.step();
+            while (tokens.token != Tokens.END && lines < TAPE_BYTES) {
+                if (!readLine()) {
+                    return false;
+                }
+                lines++;
+                tokens.step();
+            }
+            into.settle();
+            return true;
+        }
+
+        private boolean readLine() {
+            switch (tokens.token) {
+                case Tokens.KIND:
+                    return readKind() && isEnd();
+                case Tokens.HOUSE:
+                    return readHouse() && isEnd();
+                case Tokens.DAY:
+                    return readDay() && isEnd();
+                case Tokens.WORK:
+                    return readWork() && isEnd();
+                case Tokens.TERM:
+                    return readTerm() && isEnd();
+                case Tokens.SEED:
+                    return readSeed() && isEnd();
+                case Tokens.LAW:
+                    return readLaw();
+                default:
+                    return fails(CANT_STAND);
+            }
+        }
+
+        private boolean fails(int number) {
+            faultNumber = number;
+            faultPlace = tokens.place;
+            return false;
+        }
+
+        private boolean isEnd() {
+            tokens.step();
+            return tokens.token == Tokens.SEMICOLON || fails(CANT_STAND);
+        }
+
+        private boolean isWord() {
+            tokens.step();
+            return tokens.token == Tokens.OWN_WORD || fails(CANT_STAND);
+        }
+
+        private boolean isNumber(int least, int most) {
+            tokens.step();
+            if (tokens.token != Tokens.NUMBER) {
+                return fails(CANT_STAND);
+            }
+            return isWithin(tokens.value, least, most) || fails(TOO_MUCH);
+        }
+
+        private boolean readKind() {
+            int kind = into.kinds;
+            if (kind >= MOST) {
+                return fails(TOO_MUCH);
+            }
+            if (!isWord()) {
+                return false;
+            }
+            if (into.kindNamed(tokens.value) != NONE) {
+                return fails(TOLD_ALREADY);
+            }
+            into.kindLetters[kind] = tokens.value;
+            if (!isNumber(0, 99)) {
+                return false;
+            }
+            into.worth[kind] = tokens.value;
+            if (!isNumber(0, 99)) {
+                return false;
+            }
+            into.weight[kind] = tokens.value;
+            into.kinds++;
+            return true;
+        }
+
+        private boolean readHouse() {
+            int house = into.houses;
+            if (house >= MOST) {
+                return fails(TOO_MUCH);
+            }
+            if (!isWord()) {
+                return false;
+            }
+            if (into.houseNamed(tokens.value) != NONE) {
+                return fails(TOLD_ALREADY);
+            }
+            into.houseLetters[house] = tokens.value;
+            if (!isNumber(0, 999)) {
+                return false;
+            }
+            into.purse[house] = tokens.value;
+            if (!isNumber(0, 9)) {
+                return false;
+            }
+            into.eager[house] = tokens.value;
+            if (!isNumber(0, 99)) {
+                return false;
+            }
+            into.earns[house] = tokens.value;
+            into.houses++;
+            return true;
+        }
+
+        private boolean readDay() {
+            if (into.toldDays >= MOST_DAYS) {
+                return fails(TOO_MUCH);
+            }
+            if (!isNumber(0, TOLD_DAYS - 1)) {
+                return false;
+            }
+            int day = tokens.value;
+            if (into.kindTold(day) != NONE) {
+                return fails(TOLD_ALREADY);
+            }
+            if (!isWord()) {
+                return false;
+            }
+            int kind = into.kindNamed(tokens.value);
+            if (kind == NONE) {
+                return fails(NOT_TOLD);
+            }
+            into.told[day] = kind;
+            into.toldDays++;
+            return true;
+        }
+
+        private boolean readWork() {
+            int work = into.works;
+            if (work >= MOST) {
+                return fails(TOO_MUCH);
+            }
+            if (!isWord()) {
+                return false;
+            }
+            into.workHouse[work] = into.houseNamed(tokens.value);
+            if (into.workHouse[work] == NONE) {
+                return fails(NOT_TOLD);
+            }
+            if (!isWord()) {
+                return false;
+            }
+            into.workKind[work] = into.kindNamed(tokens.value);
+            if (into.workKind[work] == NONE) {
+                return fails(NOT_TOLD);
+            }
+            into.works++;
+            return true;
+        }
+
+        private boolean readTerm() {
+            if (into.term != NONE) {
+                return fails(TOLD_ALREADY);
+            }
+            if (!isNumber(1, 99)) {
+                return false;
+            }
+            into.term = tokens.value;
+            return true;
+        }
+
+        private boolean readSeed() {
+            if (into.seed != NONE) {
+                return fails(TOLD_ALREADY);
+            }
+            if (!isNumber(0, 99999)) {
+                return false;
+            }
+            into.seed = tokens.value;
+            return true;
+        }
+
+        private boolean readLaw() {
+            tokens.step();
+            if (tokens.token < Tokens.LOOK || tokens.token > Tokens.PRICE) {
+                return fails(CANT_STAND);
+            }
+            int law = tokens.token - Tokens.LOOK;
+            if (into.laws.has(law)) {
+                return fails(TOLD_ALREADY);
+            }
+            into.laws.begin(law);
+            if (!readFormula()) {
+                return false;
+            }
+            into.laws.end(law);
+            return true;
+        }
+
+        /** E and the ';' behind it: by turns what stands for a value and what stands between two. */
+        private boolean readFormula() {
+            waitings = 0;
+            open = 0;
+            boolean valued = false;
+            for (int i = 0; i < TAPE_BYTES; i++) {
+                tokens.step();
+                if (valued && tokens.token == Tokens.SEMICOLON && open == 0) {
+                    release(1);
+                    return true;
+                }
+                boolean fitting = valued ? readBehindValue() : readValue();
+                if (!fitting) {
+                    return false;
+                }
+                valued = tokens.token == Tokens.NUMBER || tokens.token == Tokens.CLOSE || tokens.isName();
+            }
+            return fails(CANT_STAND);
+        }
+
+        /** A number, a NAME, a '(' or a not. */
+        private boolean readValue() {
+            if (tokens.token == Tokens.NUMBER) {
+                return isKnot() && (tokens.value <= 9999 || fails(TOO_MUCH)) && puts(tokens.value);
+            }
+            if (tokens.isName()) {
+                return isKnot() && puts(Laws.NAMED + tokens.token - Tokens.WORTH);
+            }
+            if (tokens.token == Tokens.OPEN) {
+                if (open >= MOST_OPEN) {
+                    return fails(TOO_MUCH);
+                }
+                open++;
+                return holds(Tokens.OPEN);
+            }
+            if (tokens.token == Tokens.NOT && rankOfLatest() < COMPARING) {
+                return isKnot() && holds(Tokens.NOT);
+            }
+            return fails(CANT_STAND);
+        }
+
+        /** A sign between two values, or a ')'. */
+        private boolean readBehindValue() {
+            if (tokens.token == Tokens.CLOSE && open > 0) {
+                release(1);
+                waitings--;
+                open--;
+                return true;
+            }
+            int rank = rankOf(tokens.token);
+            if (rank == 0 || tokens.token == Tokens.NOT) {
+                return fails(CANT_STAND);
+            }
+            release(rank == COMPARING ? COMPARING + 1 : rank);
+            if (rank == COMPARING && rankOfLatest() == COMPARING) {
+                return fails(CANT_STAND);
+            }
+            return isKnot() && holds(tokens.token);
+        }
+
+        private boolean isKnot() {
+            if (into.laws.knots >= Laws.KNOTS) {
+                return fails(TOO_MUCH);
+            }
+            into.laws.knots++;
+            return true;
+        }
+
+        private boolean puts(int code) {
+            into.laws.add(code);
+            return true;
+        }
+
+        private boolean holds(int sign) {
+            if (waitings < waiting.length) {
+                waiting[waitings] = sign;
+                waitings++;
+            }
+            return true;
+        }
+
+        private int rankOfLatest() {
+            return waitings > 0 ? rankOf(waiting[waitings - 1]) : 0;
+        }
+
+        /** The waiting signs that bind as much as this, or more, have their right side now. */
+        private void release(int rank) {
+            while (waitings > 0 && rankOf(waiting[waitings - 1]) >= rank) {
+                waitings--;
+                into.laws.add(Laws.SIGNS + waiting[waitings]);
+            }
+        }
+
+        /** How much a sign binds; 0 of what is none, a '(' too. */
+        private static int rankOf(int sign) {
+            switch (sign) {
+                case Tokens.OR:
+                    return 1;
+                case Tokens.AND:
+                    return 2;
+                case Tokens.NOT:
+                    return 3;
+                case Tokens.PLUS:
+                case Tokens.MINUS:
+                    return 5;
+                case Tokens.TIMES:
+                case Tokens.BY:
+                    return 6;
+                default:
+                    return sign >= Tokens.LESS && sign <= Tokens.MORE ? COMPARING : 0;
             }
         }
     }
@@ -1589,7 +1603,7 @@ public final class SunBills {
         }
 
         int nextNumber() {
-            number = number * 1103515245 + 12345 & Integer.MAX_VALUE;
+            number = (number * 1103515245 + 12345) & Integer.MAX_VALUE;
             return number / 65536;
         }
     }
@@ -1899,7 +1913,7 @@ public final class SunBills {
 
         /** What the WORKS from this one on come to, if it is laid on that DAY. */
         private int bestOn(Book book, int work, int day, int taken) {
-            return LAID - cost(book, work) + best[(work + 1) * SETS + (taken | 1 << day)];
+            return LAID - cost(book, work) + best[(work + 1) * SETS + (taken | (1 << day))];
         }
 
         private static int cost(Book book, int work) {
