@@ -213,6 +213,21 @@ public final class PromisesTest {
         is("blanks and no blanks", read(x, "kind a1 2;\n kind\nb 3\n\n4 ; house a 007 8 9;term5;"), 4);
         is("leading noughts", x.house(0, 0), 7);
         is("term 5", x.termIn(), 5);
+        // What an earlier TEXT told is gone, however many came between.
+        String six = "kind a 5 1;house a 9 1 1;house b 9 1 1;work a a;work b a;work a a;law look 1;law use 2;law price 3;term 2;day 1 a;";
+        for (int i = 0; i < 3; i++) {
+            read(x, six);
+            is("three laid", x.plan(8, 6), 3);
+        }
+        for (int i = 0; i < 3; i++) {
+            is("a smaller one", read(x, "kind a 5 1;house a 7 1 1;work a a;"), 3);
+            is("one purse", x.count(6), 7);
+            is("no laws", x.count(3), 0);
+            is("no look", x.law(0, 0, 0), Long.MIN_VALUE);
+            is("no price", x.law(2, 0, 0), Long.MIN_VALUE);
+            is("one work", x.plan(1, 0) * 10 + x.plan(1, 6), 1);
+            is("no day for it", x.plan(0, 0), -2);
+        }
     }
 
     private static void fault() {
@@ -252,6 +267,14 @@ public final class PromisesTest {
         faulty("kind a -1 1;", 1, 7);
         faulty("kind a 100 100;", 2, 7);
         faulty("kind a 1 99999999999999999999;", 2, 9);
+        faulty("kind a 1 100;", 2, 9);
+        faulty("kind a 1 1;day 5 1;", 1, 17);
+        faulty("kind a 1 1;day 5 day;", 1, 17);
+        faulty("house b 1 1 1;work b 1;", 1, 21);
+        faulty("kind a 1 1;house b 1 1 1;work 1 a;", 1, 30);
+        faulty("house a 1 1;", 1, 11);
+        faulty("house a 1;", 1, 9);
+        faulty("house a;", 1, 7);
         faulty("house a 999 9 99;house a 1 1 1;", 3, 23);
         faulty("house a 1000 1 1;", 2, 8);
         faulty("house a 0 10 1;", 2, 10);
@@ -333,6 +356,18 @@ public final class PromisesTest {
         }
         SunBills x = made(most + ";");
         is("64 knots", x.count(3), 64);
+        read(x, "kind a 1 1;house h 1 1 1;" + most + ";");
+        is("all of them count", x.law(1, 0, 0), 32);
+        StringBuilder nots = new StringBuilder();
+        for (int i = 0; i < 63; i++) {
+            nots.append("not ");
+        }
+        is("63 nots", value(nots + "0"), 1);
+        is("8 open, 55 nots", value("((((((((" + nots.substring(32) + "1))))))))"), 0);
+        x = new SunBills();
+        x.feed(0x6c617720, 0x75736520, 0x313c3d32, 0x3b202020, 0x20202020);
+        is("what is behind the n bytes doesn't count", x.text(10), -1);
+        is("the length", x.fault(1), 10);
         faulty(most + "+1;", 2, most.length());
         faulty(most + ";law price (1);", 2, most.length() + 12);
         faulty(most + ";law price 1);", 2, most.length() + 11);
@@ -477,6 +512,9 @@ public final class PromisesTest {
         is("< right ahead of (", value("1<(2>1)+1"), 1);
         is("and", value("2 and 3"), 1);
         is("and 0", value("2 and 0"), 0);
+        is("1 and 1", value("1 and 1"), 1);
+        is("or in ( )", value("(0 or 1)+1"), 2);
+        is("or in ( ) ahead of and", value("(1 or 0) and 0"), 0);
         is("or", value("0 or 7"), 1);
         is("or 0", value("0 or 0"), 0);
         is("not", value("not 5"), 0);
@@ -497,7 +535,12 @@ public final class PromisesTest {
         is("0 / 0", value("0/(1-1)"), error);
         is("10 to the 12", value("1000*1000*1000*1000"), 1000000000000L);
         is("and 1", value("1000*1000*1000*1000+1"), error);
+        is("by a sum", value("1000*1000*1000*999+1000*1000*1000"), 1000000000000L);
         is("below 0", value("0-1000*1000*1000*1000"), -1000000000000L);
+        is("below 0 by a product", value("(0-1000*1000)*(1000*1000)"), -1000000000000L);
+        is("below 0 by a product, right", value("1000*1000*(0-1000*1000)"), -1000000000000L);
+        is("of two below 0", value("(0-1000*1000)*(0-1000*1000)"), 1000000000000L);
+        is("of two below 0, too much", value("(0-1000*1000)*(0-1000*1000-1)"), error);
         is("below 0 by more", value("0-1000*1000*1000*1000-1"), error);
         is("a product far above", value("9999*9999*9999*9999*9999*9999"), error);
         is("a product far below", value("(0-9999*9999*9999)*(9999*9999*9999)"), error);
@@ -911,6 +954,8 @@ public final class PromisesTest {
         x = made("kind a 9 0;");
         is("no weights", x.waits(6, 0), 0);
         is("no weights", x.waits(6, 1), 1);
+        x = made("kind a 9 1;kind b 5 0;");
+        is("weight 1 in all", x.waits(2, 0) * 10 + x.waits(2, 1), 91);
         x = made("kind a 9 3;kind b 9 3;");
         is("least terms", x.waits(6, 0) * 10 + x.waits(6, 1), 91);
         // 593 of 594 have worth 98, one 99: below stays 594^6, above is the most that can be
@@ -947,6 +992,9 @@ public final class PromisesTest {
         is("of whatever weight", x.came(0, 5, 5), 3125);
         is("4 of 1, one of 2", x.came(0, 5, 6), 3125);
         is("all of 2", x.came(0, 5, 10), 1);
+        x = made("kind a 3 1;house h 0 2 0;");
+        is("one kind", x.came(0, 4, 24), 1);
+        is("one kind, not so much", x.came(0, 4, 18), 0);
         x = made("house h 0 1 0;");
         is("no kinds", x.came(0, 1, 0), 0);
         is("no kinds, no days", x.came(0, 0, 0), 1);
@@ -970,6 +1018,9 @@ public final class PromisesTest {
         x = made("kind a 1 0;kind b 1 7;");
         is("no weight of its own", x.likely(0, 3, 0) * 10 + x.likely(0, 3, 1), 1);
         is("sure", x.likely(1, 3, 0) * 10 + x.likely(1, 3, 1), 11);
+        x = made("kind a 1 0;kind b 1 1;");
+        is("weight 1 in all", x.likely(1, 3, 0) * 10 + x.likely(1, 3, 1), 11);
+        is("weight 1 in all, not of it", x.likely(0, 3, 0) * 10 + x.likely(0, 3, 1), 1);
         x = made("kind a 1 0;kind b 1 0;");
         is("no weights", x.likely(0, 3, 0) * 10 + x.likely(0, 3, 1), 1);
         x = made("kind a 1 99;kind b 1 99;kind c 1 99;kind d 1 99;kind e 1 99;kind f 1 98;");
@@ -1011,6 +1062,19 @@ public final class PromisesTest {
         is("d first", x.rest(3, 2, 1, 0), 10);
         is("only that", x.rest(3, 2, 1, 1), -2);
         is("k far above", x.rest(3, 2, 1, Integer.MAX_VALUE), -2);
+        // worth 25, eager 1 and 9. One who looks alone has eager + 2, beside another eager + 0: the first one has 3 alone
+        // and 1 in two (as drawing), half its eager 0; the second one always looks: 00 and 10 rest.
+        x = made("kind u 25 1;kind f 5 1;kind g 4 1;house a 0 1 0;house b 0 9 0;house c 0 2 0;house d 0 4 0;");
+        is("in two as drawing", x.rest(0, 1, 0, 0), 0);
+        is("drawing", x.rest(0, 1, 0, 1), 10);
+        is("no more", x.rest(0, 1, 0, 2), -2);
+        // worth 5: alone eager - 2, in two eager - 2. c: 0, 0 against 1 and 1: draws; d: 2, 2 against 1 and 2: 10 and 11 rest.
+        is("c draws, d looks", x.rest(2, 3, 1, 0), 10);
+        is("c draws, d as well", x.rest(2, 3, 1, 1), 11);
+        is("no more", x.rest(2, 3, 1, 2), -2);
+        // worth 4: alone eager - 3, in two eager - 2. d: alone 1 against 2, in two 2 against 1; c: -1, 0 against 1, 1: 11 alone.
+        is("both draw", x.rest(2, 3, 2, 0), 11);
+        is("no more", x.rests(2, 3, 2), 1);
     }
 
     private static void richest() {
@@ -1044,6 +1108,9 @@ public final class PromisesTest {
         is("d", x.leave(15, 0), 8);
         is("worth 0", x.leave(15, 1), -2);
         is("one", x.leave(4, 0), -2);
+        is("the first one", x.leave(1, 0), -2);
+        is("a of a and a dearer one", made("kind s 1 1;house a 0 1 0;house b 0 9 0;").leave(3, 0), 1);
+        is("0 and 1", made("kind s 1 1;house a 0 0 0;house b 0 1 0;").leave(3, 0), 1);
         is("none", x.leave(0, 0), -1);
         is("16", x.leave(16, 0), -1);
         is("-1", x.leave(-1, 0), -1);
@@ -1115,6 +1182,7 @@ public final class PromisesTest {
         is("12, but 5 there", x.rescue(), -2);
         x = made("kind s 10 1;house a 15 2 0;house b 12 0 0;house c 3 1 0;term 1;");
         is("12 of 12", x.rescue(), 12);
+        is("12 of 11", made("kind s 10 1;house a 15 2 0;house b 11 0 0;house c 3 1 0;term 1;").rescue(), -2);
         x.go(1);
         is("those sold up now are in neither", x.rescue(), 0);
         x = made("kind s 10 1;house a 15 2 0;house b 11 0 1;house c 3 1 0;term 3;");
