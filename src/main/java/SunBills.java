@@ -203,7 +203,7 @@ public final class SunBills {
             return NONE;
         }
         int best = NOT_THERE;
-        for (int houses = 1; areHouses(houses); houses++) {
+        for (int houses = 1; houses < 1 << book.houses; houses++) {
             boolean fewer = best == NOT_THERE || Integer.bitCount(houses) < Integer.bitCount(best);
             if (fewer && noneSoldUp(houses) && sumOf(houses) >= sum) {
                 best = houses;
