@@ -358,6 +358,7 @@ public final class BoundaryAsksTest extends Checks {
         isFraction("2 days", x.waits(2, 0), x.waits(2, 1), 20, 3);
         isFraction("no weights", made("kind a 9 0;kind b 8 0;").waits(6, 0), made("kind a 9 0;").waits(6, 1), 0, 1);
         isFraction("no kinds", new SunBills().waits(6, 0), new SunBills().waits(6, 1), 0, 1);
+        isFraction("weight 1 in all", made("kind a 9 1;").waits(6, 0), made("kind a 9 1;").waits(6, 1), 9, 1);
         isFraction("worth 0", made("kind a 0 9;").waits(6, 0), made("kind a 0 9;").waits(6, 1), 0, 1);
         isFraction("just as much", made("kind a 9 5;kind b 9 2;").waits(6, 0), made("kind a 9 5;kind b 9 2;").waits(6, 1), 9, 1);
     }
@@ -453,6 +454,11 @@ public final class BoundaryAsksTest extends Checks {
         bounds(ODDS, "n", 0, 5, -1, (x, v) -> x.likely(0, v, 0));
         bounds(ODDS, "what", 0, 1, -1, (x, v) -> x.likely(0, 1, v));
         SunBills x = made("kind a 1 0;kind b 1 0;");
+        isFraction("weight 1 in all", made("kind a 1 1;").likely(0, 5, 0), made("kind a 1 1;").likely(0, 5, 1), 1, 1);
+        SunBills y = made(ODDS);
+        y.waits(6, 0);
+        read(y, "kind a 1 0;kind b 1 0;");
+        isFraction("no weights, whatever was asked ahead", y.likely(0, 2, 0), y.likely(0, 2, 1), 0, 1);
         for (int n = 0; n <= 5; n++) {
             isFraction("no weights, " + n + " days", x.likely(1, n, 0), x.likely(1, n, 1), 0, 1);
         }
@@ -618,6 +624,7 @@ public final class BoundaryAsksTest extends Checks {
         is("the least bits", x.leave(63, 0), 16);
         is("all but e: 9/5 each, a and c 4", x.leave(47, 0), 37);
         is("one alone pays its part", x.leave(1, 0), -2);
+        is("0 is less than a half", made("kind k 1 1;house a 0 0 0;house b 0 1 0;").leave(3, 0), 1);
         is("the last alone", x.leave(32, 0), -2);
         is("worth 0", made("kind k 0 1;house a 0 4 0;house b 0 8 0;").leave(3, 0), -2);
     }
@@ -1068,6 +1075,9 @@ public final class BoundaryAsksTest extends Checks {
         is("none fits: the first", x.ask(0, 0), 0);
         is("0", x.ask(0, 1), 0);
         is("another day", x.ask(1, 0), 1);
+        SunBills z = made("kind a 1 1;kind b 2 1;house g 0 1 0;");
+        z.note(0, 0, 1, true);
+        is("the first KIND alone", z.ask(0, 1), 1);
         SunBills y = made("kind a 9 1;kind b 9 1;house g 0 0 0;house h 0 9 0;");
         is("alike: the first", y.ask(0, 0), 0);
         is("both are left", y.ask(0, 1), 2);
@@ -1157,6 +1167,16 @@ public final class BoundaryAsksTest extends Checks {
         z.tried(4, 0, 9);
         same("as before", state(z), before);
         is("as told again", z.ahead(1, 0, 0), 1 + 9 - 891);
+        SunBills w = made("kind k 5 1;house g 100 2 0;law look worth + eager;term 1;");
+        for (int what : new int[] {1, 3, 4}) {
+            w.tried(what, 0, 9);
+            is("a law as told", w.law(0, 0, 0), 7);
+            w.tried(what, 0, 9);
+            is("ahead as told", w.ahead(1, 0, 0), w.house(0, 0) - 10);
+            w.tried(what, 0, 9);
+            w.go(1);
+            is("days as told", w.house(0, 0), what == 1 ? 90 : what == 3 ? 80 : 70);
+        }
         is("no houses", new SunBills().tried(3, 0, 200), 0);
     }
 

@@ -590,6 +590,18 @@ public final class BoundaryDaysTest extends Checks {
             y.go(1);
             same("day " + i, state(x), state(y));
         }
+        // Whatever was asked or done ahead, there are no numbers as it goes.
+        SunBills z = made("kind a 9 5;kind b 1 4;house h 500 1 0;term 99;");
+        for (int i = 0; i < 4; i++) {
+            z.go(3);
+            is("behind days", z.ahead(20, 1, 0) - z.house(0, 1), 180);
+            z.chance(5, 9, 0);
+            is("behind a chance", z.ahead(20, 1, 0) - z.house(0, 1), 180);
+            z.chance(5, 9, 0);
+            is("behind a chance", z.blinds(60, 1), 0);
+            z.chance(5, 9, 0);
+            is("behind a chance", z.tried(4, 0, 10), 500 - z.house(0, 1) - 90);
+        }
     }
 
     private static void asItGoesNone() {
@@ -709,6 +721,12 @@ public final class BoundaryDaysTest extends Checks {
         x.back();
         x.go(30);
         same("the same numbers come", town(x), later);
+        SunBills y = made("kind a 1 0;");
+        y.go(3);
+        y.keep();
+        y.go(5);
+        y.back();
+        is("days without weather", y.count(9), 3);
     }
 
     // ---- promises 6 to 13

@@ -295,6 +295,17 @@ public final class BoundaryTextTest extends Checks {
         faulty("law use (1)2;", 1, 11);
         faulty("law use 1 worth;", 1, 10);
         faulty("law use worth eager;", 1, 14);
+        is("and ahead of or", value("1 or 0 and 0"), 1);
+        is("and ahead of or, left", value("0 and 0 or 1"), 1);
+        is("( ) ahead of and", value("(1 or 0) and 0"), 0);
+        is("or in ( )", value("(0 or 1) + 1"), 2);
+        is("not ahead of and", value("not 0 and 0"), 0);
+        is("comparisons ahead of not", value("not 0 = 1"), 1);
+        is("+ ahead of comparisons", value("1 + 1 = 2"), 1);
+        is("* ahead of +", value("1 + 2 * 3"), 7);
+        is("- from the left", value("9 - 3 - 2"), 4);
+        is("/ from the left", value("9 / 3 * 2"), 6);
+        is("most of all waiting: eight '(', 63 nots", value("((((((((" + times(63, "not ") + "1))))))))"), 0);
         for (String word : LANGUAGE) {
             boolean name = "worth eager purse bill used weight date".contains(word) && !word.equals("use") && !word.equals("or");
             if (name) {
@@ -611,6 +622,14 @@ public final class BoundaryTextTest extends Checks {
         read(x, full + "1+1;");
         is("as before", x.count(3), 3);
         is("again from none on", read(x, full + "1;"), 3);
+        // All 64 are there, however often such a TEXT comes.
+        String whole = "kind k 1 1;house h 1 1 1;law look 7;law use 1" + times(31, "+1") + ";";
+        for (int i = 0; i < 5; i++) {
+            is("64 again", read(x, whole), 4);
+            is("count", x.count(3), 64);
+            is("the first", x.law(0, 0, 0), 7);
+            is("the last", x.law(1, 0, 0), 32);
+        }
     }
 
     private static void told() {
@@ -638,6 +657,14 @@ public final class BoundaryTextTest extends Checks {
         // Nor what one with a FAULT told.
         is("a fault", read(x, ALL_LINES + "#"), -1);
         is("and again", read(x, ALL_LINES), 9);
+        // The most of each, again and again.
+        String works = "kind a 1 1;kind b 1 2;house h 1 1 1;" + times(6, "work h a;");
+        for (int i = 0; i < 4; i++) {
+            is("20 days", read(x, dayLines(20)), 22);
+            is("six works", read(x, works), 9);
+            is("six kinds", read(x, SIX_KINDS), 6);
+            is("six houses", read(x, SIX_HOUSES), 6);
+        }
     }
 
     private static void notTold() {
@@ -785,6 +812,26 @@ public final class BoundaryTextTest extends Checks {
             x.go(5);
             is("the same numbers", x.count(6), -167);
         }
+        // Nothing is left of greater TEXTS ahead.
+        SunBills y = made("");
+        String great = SIX_KINDS.replace(" 1 1;", " 9 9;") + SIX_HOUSES + times(6, "work a a;") + "day 0 b;law look 0;law use 0;law price 0;";
+        for (int i = 0; i < 4; i++) {
+            read(y, great);
+            is("six works", y.plan(8, 6), 6);
+            read(y, "kind a 1 0;");
+            y.go(7);
+            is("days without weather", y.count(9), 7);
+            read(y, "kind a 5 2;kind b 5 1;house h 7 1 1;work h a;");
+            is("without weather", y.count(9), 0);
+            is("one purse", y.count(6), 7);
+            is("one work", y.plan(8, 6) * 10 + y.plan(8, 0), 10);
+            is("its sum", y.plan(8, 7), 5);
+            is("by weights 2 and 1", y.likely(0, 1, 0) * 10 + y.likely(0, 1, 1), 23);
+            is("no laws", y.law(0, 0, 0), Long.MIN_VALUE);
+            is("not told", y.weather(0), 0);
+            y.go(1);
+            is("looked", y.count(8), 1);
+        }
     }
 
     private static void readingFaulty() {
@@ -806,6 +853,13 @@ public final class BoundaryTextTest extends Checks {
         is("undone", x.undo(), 0);
         is("the image", x.back(), 4);
         is("a good one then", read(x, "term 9;"), 1);
+        // What was left open in E of one with a FAULT isn't open in the next one.
+        for (int i = 0; i < 4; i++) {
+            is("open", read(x, "law use 1+2*((((((((1"), -1);
+            is("signs that wait", read(x, "law use not not 1+2*3 <"), -1);
+            is("not open", read(x, "kind k 1 1;house h 1 1 1;law use ((((((((5))))))));"), 3);
+            is("its value", x.law(1, 0, 0), 5);
+        }
     }
 
     private static void readingTooMuch() {

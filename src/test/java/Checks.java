@@ -45,6 +45,14 @@ abstract class Checks {
         }
     }
 
+    /** From here on checks are of a promise as a whole. */
+    static void promise(int number) {
+        endSentence();
+        sentence = "promise " + number;
+        checksBefore = checks;
+        sentences++;
+    }
+
     private static void endSentence() {
         if (!sentence.isEmpty() && checks == checksBefore) {
             wrong++;
@@ -62,7 +70,7 @@ abstract class Checks {
 
     static void end(String name) {
         endSentence();
-        System.out.println(name + ": " + sentences + " sentences, " + checks + " checks, " + wrong + " wrong");
+        System.out.println(name + ": " + sentences + " parts, " + checks + " checks, " + wrong + " wrong");
         if (wrong != 0) {
             System.exit(1);
         }

@@ -1,4 +1,3 @@
-import java.util.NoSuchElementException;
 import java.util.Random;
 
 /** Random runs of calls: SunBills answers what the plain model of the document answers. */
@@ -11,10 +10,8 @@ public final class OracleTest {
     private static final String JUNK = ";()<>=+-*/ \n09az#A";
 
     private final Random random;
-    private final SunBills made = new SunBills();
-    private final Oracle due = new Oracle();
-    private final int[] seen = new int[50];
-    private StringBuilder trail = new StringBuilder();
+    private final Twins twins = new Twins();
+    private final Oracle due = twins.due;
     private final int leaning;
 
     private OracleTest(long seed) {
@@ -24,22 +21,22 @@ public final class OracleTest {
 
     public static void main(String[] args) {
         int wrong = 0;
-        int[] seen = new int[50];
+        int[] seen = new int[Twins.CALLS + 1];
         int[] faults = new int[5];
         for (int run = 0; run < RUNS && wrong < 5; run++) {
             OracleTest test = new OracleTest(run);
             String bad = test.run(faults);
             for (int i = 0; i < seen.length; i++) {
-                seen[i] += test.seen[i];
+                seen[i] += test.twins.seen[i];
             }
             if (bad != null) {
                 wrong++;
                 System.out.println("run " + run + ": " + bad);
-                System.out.println(test.trail);
+                System.out.println(test.twins.trail);
             }
         }
-        for (int i = 0; i < 44; i++) {
-            if (wrong == 0 && i > 0 && seen[i] == 0) {
+        for (int i = 1; i <= Twins.CALLS; i++) {
+            if (wrong == 0 && seen[i] == 0) {
                 wrong++;
                 System.out.println("call " + i + " was never made");
             }
@@ -61,16 +58,18 @@ public final class OracleTest {
         while (calls < CALLS) {
             if (calls == 0 || due.told.houses.isEmpty() && below(4) > 0 || below(80) == 0) {
                 String text = makeText();
-                trail = new StringBuilder(text).append('\n');
+                twins.trail.setLength(0);
+                twins.trail.append(text).append('\n');
                 int n = text.length();
-                String bad = feedAll(text);
+                twins.call(2, 0, 0, 0, 0, 0); // what is on the TAPE goes
+                String bad = twins.feed(text);
                 calls += (n + 19) / 20;
                 if (bad == null) {
-                    bad = call(2, n, 0, 0, 0, 0);
+                    bad = twins.call(2, n, 0, 0, 0, 0);
                     faults[due.fault(0)]++;
                 }
                 for (int what = -1; bad == null && what < 3; what++) {
-                    bad = call(3, what, 0, 0, 0, 0);
+                    bad = twins.call(3, what, 0, 0, 0, 0);
                 }
                 calls += 5;
                 if (bad != null) {
@@ -78,14 +77,14 @@ public final class OracleTest {
                 }
             }
             int which = which();
-            String bad = call(which, arg(which, 0), arg(which, 1), arg(which, 2), arg(which, 3), arg(which, 4));
+            String bad = twins.call(which, arg(which, 0), arg(which, 1), arg(which, 2), arg(which, 3), arg(which, 4));
             calls++;
             if (bad != null) {
                 return bad;
             }
         }
         for (int what = 0; what < 13; what++) {
-            String bad = call(43, what, 0, 0, 0, 0);
+            String bad = twins.call(43, what, 0, 0, 0, 0);
             if (bad != null) {
                 return bad;
             }
@@ -109,25 +108,6 @@ public final class OracleTest {
         }
         int which = 3 + below(41);
         return below(60) == 0 ? 1 + below(2) : which;
-    }
-
-    private String feedAll(String text) {
-        call(2, 0, 0, 0, 0, 0); // what is on the TAPE goes
-        StringBuilder padded = new StringBuilder(text);
-        while (padded.length() % 20 != 0) {
-            padded.append(random.nextBoolean() ? ' ' : 'x');
-        }
-        for (int i = 0; i < padded.length(); i += 20) {
-            int[] v = new int[5];
-            for (int j = 0; j < 20; j++) {
-                v[j / 4] = v[j / 4] << 8 | padded.charAt(i + j);
-            }
-            String bad = call(1, v[0], v[1], v[2], v[3], v[4]);
-            if (bad != null) {
-                return bad;
-            }
-        }
-        return null;
     }
 
     // ---- texts
@@ -269,7 +249,7 @@ public final class OracleTest {
             case 2:
                 return below(40);
             case 4:
-                return i == 0 ? below(3) : lettersOf(pick(OWN));
+                return i == 0 ? below(3) : Twins.lettersOf(pick(OWN));
             case 5:
                 return i == 0 ? someHouse() : below(8);
             case 6:
@@ -344,136 +324,5 @@ public final class OracleTest {
 
     private int someHouses() {
         return below(20) == 0 ? below(66) - 1 : below(1 << due.told.houses.size());
-    }
-
-    private static int lettersOf(String word) {
-        int code = 0;
-        for (int i = 0; i < 6; i++) {
-            code = code << 5 | (i < word.length() ? word.charAt(i) - 'a' + 1 : 0);
-        }
-        return code;
-    }
-
-    private String call(int which, int a, int b, int c, int d, int e) {
-        seen[which]++;
-        String got;
-        String want;
-        try {
-            got = String.valueOf(made(which, a, b, c, d, e));
-        } catch (IndexOutOfBoundsException x) {
-            got = x.getClass() == IndexOutOfBoundsException.class ? "throws 1" : x.toString();
-        } catch (NoSuchElementException x) {
-            got = "throws 2";
-        }
-        try {
-            want = String.valueOf(due(which, a, b, c, d, e));
-        } catch (IndexOutOfBoundsException x) {
-            want = x.getClass() == IndexOutOfBoundsException.class ? "throws 1" : "oracle " + x;
-        } catch (NoSuchElementException x) {
-            want = "throws 2";
-        }
-        String said = "call " + which + " (" + a + ", " + b + ", " + c + ", " + d + ", " + e + ")";
-        trail.append(said).append(" -> ").append(got).append('\n');
-        return got.equals(want) ? null : said + " answered " + got + ", due is " + want;
-    }
-
-    private long made(int which, int a, int b, int c, int d, int e) {
-        SunBills x = made;
-        switch (which) {
-            case 1: return x.feed(a, b, c, d, e);
-            case 2: return x.text(a);
-            case 3: return x.fault(a);
-            case 4: return x.named(a, b);
-            case 5: return x.house(a, b);
-            case 6: return x.kind(a, b);
-            case 7: return x.weather(a);
-            case 8: return x.law(a, b, c);
-            case 9: return x.blind(a);
-            case 10: return x.send(a) ? 1 : 0;
-            case 11: return x.lend(a, b, c);
-            case 12: return x.go(a);
-            case 13: return x.ahead(a, b, c);
-            case 14: return x.sold(a);
-            case 15: return x.credit(a);
-            case 16: return x.plan(a, b);
-            case 17: return x.share(a, b, c, d);
-            case 18: return x.waits(a, b);
-            case 19: return x.came(a, b, c);
-            case 20: return x.likely(a, b, c);
-            case 21: return x.rests(a, b, c);
-            case 22: return x.rest(a, b, c, d);
-            case 23: return x.richest();
-            case 24: return x.leave(a, b);
-            case 25: return x.blinds(a, b);
-            case 26: return x.among(a);
-            case 27: return x.rescue();
-            case 28: return x.termIn();
-            case 29: return x.often(a, b);
-            case 30: return x.owes(a);
-            case 31: return x.have(a);
-            case 32: return x.dearest();
-            case 33: return x.note(a, b, c, (d & 1) == 0);
-            case 34: return x.strike(a);
-            case 35: return x.known(a) ? 1 : 0;
-            case 36: return x.fits(a);
-            case 37: return x.ask(a, b);
-            case 38: return x.chance(a, b, c);
-            case 39: return x.tried(a, b, c);
-            case 40: return x.undo();
-            case 41: return x.keep();
-            case 42: return x.back();
-            case 43: return x.count(a);
-            default: return 0;
-        }
-    }
-
-    private long due(int which, int a, int b, int c, int d, int e) {
-        Oracle x = due;
-        switch (which) {
-            case 1: return x.feed(a, b, c, d, e);
-            case 2: return x.text(a);
-            case 3: return x.fault(a);
-            case 4: return x.named(a, b);
-            case 5: return x.house(a, b);
-            case 6: return x.kind(a, b);
-            case 7: return x.weather(a);
-            case 8: return x.law(a, b, c);
-            case 9: return x.blind(a);
-            case 10: return x.send(a) ? 1 : 0;
-            case 11: return x.lend(a, b, c);
-            case 12: return x.go(a);
-            case 13: return x.ahead(a, b, c);
-            case 14: return x.sold(a);
-            case 15: return x.credit(a);
-            case 16: return x.plan(a, b);
-            case 17: return x.share(a, b, c, d);
-            case 18: return x.waits(a, b);
-            case 19: return x.came(a, b, c);
-            case 20: return x.likely(a, b, c);
-            case 21: return x.rests(a, b, c);
-            case 22: return x.rest(a, b, c, d);
-            case 23: return x.richest();
-            case 24: return x.leave(a, b);
-            case 25: return x.blinds(a, b);
-            case 26: return x.among(a);
-            case 27: return x.rescue();
-            case 28: return x.termIn();
-            case 29: return x.often(a, b);
-            case 30: return x.owes(a);
-            case 31: return x.have(a);
-            case 32: return x.dearest();
-            case 33: return x.note(a, b, c, (d & 1) == 0);
-            case 34: return x.strike(a);
-            case 35: return x.known(a) ? 1 : 0;
-            case 36: return x.fits(a);
-            case 37: return x.ask(a, b);
-            case 38: return x.chance(a, b, c);
-            case 39: return x.tried(a, b, c);
-            case 40: return x.undo();
-            case 41: return x.keep();
-            case 42: return x.back();
-            case 43: return x.count(a);
-            default: return 0;
-        }
     }
 }

@@ -1,15 +1,7 @@
 import java.util.NoSuchElementException;
 
 /** Each promise by its own words: ordinary calls, the edges that the document names, and wrong ones. */
-public final class PromisesTest {
-    private static final int LOW = Integer.MIN_VALUE;
-    private static final String TOWN = "kind s 10 5;kind r 4 3;kind m 0 1;house a 50 3 10;house b 20 6 5;house c 0 0 0;"
-        + "day 0 r;day 3 m;work a r;work b s;work a s;term 5;";
-
-    private static int wrong = 0;
-    private static int checks = 0;
-    private static int promise = 0;
-
+public final class PromisesTest extends Checks {
     public static void main(String[] args) {
         newObject();
         feed();
@@ -62,71 +54,13 @@ public final class PromisesTest {
         keep();
         back();
         count();
-        System.out.println("promises: " + checks + " checks, " + wrong + " wrong");
-        if (wrong != 0) {
-            System.exit(1);
-        }
-    }
-
-    // ---- helpers
-
-    private static void is(String call, long got, long want) {
-        checks++;
-        if (got != want) {
-            wrong++;
-            System.out.println("promise " + promise + ": " + call + " answered " + got + ", due is " + want);
-        }
-    }
-
-    private static void is(String call, boolean got, boolean want) {
-        is(call, got ? 1 : 0, want ? 1 : 0);
-    }
-
-    private static int read(SunBills x, String text) {
-        StringBuilder padded = new StringBuilder(text);
-        while (padded.length() % 20 != 0) {
-            padded.append('#');
-        }
-        for (int i = 0; i < padded.length(); i += 20) {
-            int[] v = new int[5];
-            for (int j = 0; j < 20; j++) {
-                v[j / 4] = v[j / 4] << 8 | padded.charAt(i + j) & 255;
-            }
-            x.feed(v[0], v[1], v[2], v[3], v[4]);
-        }
-        return x.text(text.length());
-    }
-
-    private static SunBills made(String text) {
-        SunBills x = new SunBills();
-        if (read(x, text) < 0) {
-            wrong++;
-            System.out.println("promise " + promise + ": a good text has fault " + x.fault(0) + " at " + x.fault(1) + ": " + text);
-        }
-        return x;
-    }
-
-    private static void faulty(String text, int number, int place) {
-        SunBills x = made(TOWN);
-        x.go(2);
-        is("text of " + text, read(x, text), -1);
-        is("fault of " + text, x.fault(0), number);
-        is("place in " + text, x.fault(1), place);
-        is("all stays behind " + text, x.count(0) * 100 + x.count(4), 302);
-    }
-
-    private static int letters(String word) {
-        int code = 0;
-        for (int i = 0; i < 6; i++) {
-            code = code * 32 + (i < word.length() ? word.charAt(i) - 'a' + 1 : 0);
-        }
-        return code;
+        end("promises");
     }
 
     // ---- promises 1 to 5
 
     private static void newObject() {
-        promise = 1;
+        promise(1);
         SunBills x = new SunBills();
         for (int what = 0; what <= 12; what++) {
             is("count(" + what + ")", x.count(what), 0);
@@ -142,7 +76,7 @@ public final class PromisesTest {
     }
 
     private static void feed() {
-        promise = 2;
+        promise(2);
         SunBills x = new SunBills();
         for (int i = 1; i <= 35; i++) {
             is("feed " + i, x.feed(0x7465726d, 0x20393b20, 0x20202020, 0x0a0a0a0a, 0x20202020), 20 * i);
@@ -165,7 +99,7 @@ public final class PromisesTest {
     }
 
     private static void text() {
-        promise = 3;
+        promise(3);
         SunBills x = new SunBills();
         is("text(0)", x.text(0), 0);
         is("text(-1)", x.text(-1), -2);
@@ -231,7 +165,7 @@ public final class PromisesTest {
     }
 
     private static void fault() {
-        promise = 4;
+        promise(4);
         SunBills x = new SunBills();
         read(x, "kind a 1 1; kind a 2 2;");
         is("fault(0)", x.fault(0), 3);
@@ -248,7 +182,7 @@ public final class PromisesTest {
     }
 
     private static void faultsOfLines() {
-        promise = 4;
+        promise(4);
         faulty("A", 1, 0);
         faulty("\t", 1, 0);
         faulty("  ;", 1, 2);
@@ -317,7 +251,7 @@ public final class PromisesTest {
     }
 
     private static void faultsOfLaws() {
-        promise = 4;
+        promise(4);
         faulty("law 1;", 1, 4);
         faulty("law worth 1;", 1, 4);
         faulty("law", 1, 3);
@@ -376,7 +310,7 @@ public final class PromisesTest {
     }
 
     private static void named() {
-        promise = 5;
+        promise(5);
         SunBills x = made("kind sun 1 1;kind a 1 1;house a 1 1 1;house abcdef 1 1 1;house sun 1 1 1;");
         is("kind sun", x.named(0, letters("sun")), 0);
         is("kind a", x.named(0, 1 << 25), 1);
@@ -406,7 +340,7 @@ public final class PromisesTest {
     }
 
     private static void house() {
-        promise = 6;
+        promise(6);
         SunBills x = made(TOWN);
         x.go(1);
         x.blind(1);
@@ -429,7 +363,7 @@ public final class PromisesTest {
     }
 
     private static void kind() {
-        promise = 7;
+        promise(7);
         SunBills x = made(TOWN);
         x.go(1);
         is("worth", x.kind(0, 0), 10);
@@ -443,7 +377,7 @@ public final class PromisesTest {
     }
 
     private static void weather() {
-        promise = 8;
+        promise(8);
         SunBills x = made("kind a 1 4;kind b 1 7;kind c 1 7;day 2 a;day 99 c;");
         is("the heaviest, the first of several", x.weather(0), 1);
         is("told", x.weather(2), 0);
@@ -466,7 +400,7 @@ public final class PromisesTest {
     }
 
     private static void law() {
-        promise = 9;
+        promise(9);
         SunBills x = made("kind a 5 6;kind b 7 8;house h 11 2 3;house i 22 4 3;"
             + "law look worth * 1000 + weight;law use purse * 10 + eager;law price bill * 100 * 100 + used * 100 + date;");
         is("look of a", x.law(0, 0, 0), 5006);
@@ -490,12 +424,8 @@ public final class PromisesTest {
         is("that law", x.law(1, 0, 0), 7);
     }
 
-    private static long value(String e) {
-        return made("kind a 5 6;house h 11 2 3;law look " + e + ";").law(0, 0, 0);
-    }
-
     private static void signs() {
-        promise = 9;
+        promise(9);
         is("*", value("2+3*4"), 14);
         is("( )", value("(2+3)*4"), 20);
         is("- from the left", value("10-3-2"), 5);
@@ -529,7 +459,7 @@ public final class PromisesTest {
     }
 
     private static void errors() {
-        promise = 9;
+        promise(9);
         long error = Long.MIN_VALUE;
         is("/ 0", value("1/0"), error);
         is("0 / 0", value("0/(1-1)"), error);
@@ -554,7 +484,7 @@ public final class PromisesTest {
     }
 
     private static void blind() {
-        promise = 10;
+        promise(10);
         SunBills x = made(TOWN);
         is("down", x.blind(0), 1);
         is("house", x.house(0, 6), 1);
@@ -571,7 +501,7 @@ public final class PromisesTest {
     }
 
     private static void send() {
-        promise = 11;
+        promise(11);
         SunBills x = made(TOWN);
         is("send(2)", x.send(2), true);
         is("send(0)", x.send(0), true);
@@ -590,7 +520,7 @@ public final class PromisesTest {
     }
 
     private static void lend() {
-        promise = 12;
+        promise(12);
         SunBills x = made("kind a 9 1;house h 999 0 0;house i 5 9 0;house j 7 0 99;term 1;");
         is("lend", x.lend(0, 1, 4), 9);
         is("from", x.house(0, 0), 995);
@@ -622,7 +552,7 @@ public final class PromisesTest {
     }
 
     private static void go() {
-        promise = 13;
+        promise(13);
         SunBills x = made("house h 1 1 1;");
         is("go(0)", x.go(0), 0);
         is("go(200)", x.go(200), 200);
@@ -647,7 +577,7 @@ public final class PromisesTest {
     }
 
     private static void goByNumbers() {
-        promise = 13;
+        promise(13);
         // By the rule: 12345, 1406932606, 654583775, 1449466924, 229283573, 1109335178 by 65536, modulo 9.
         int[] numbers = {0, 21468, 9988, 22117, 3498, 16927};
         SunBills x = made("kind s 10 5;kind r 4 3;kind m 0 1;");
@@ -694,7 +624,7 @@ public final class PromisesTest {
     }
 
     private static void goByLaws() {
-        promise = 13;
+        promise(13);
         SunBills x = made("kind s 10 1;house a 100 2 7;law look date <> 1;law use eager + date;law price worth * 3 - used * 2;term 99;");
         x.go(1);
         is("used", x.house(0, 2), 2);
@@ -749,7 +679,7 @@ public final class PromisesTest {
     }
 
     private static void terms() {
-        promise = 13;
+        promise(13);
         SunBills x = made("kind s 10 1;house a 20 2 5;house b 0 1 10;house c 14 2 5;term 2;");
         x.go(1);
         is("not yet paid", x.house(0, 0), 20);
@@ -782,7 +712,7 @@ public final class PromisesTest {
     // ---- promises 14 to 25
 
     private static void ahead() {
-        promise = 14;
+        promise(14);
         SunBills x = made(TOWN);
         is("purse", x.ahead(4, 0, 0), 50);
         is("purse at the term", x.ahead(5, 0, 0), -42);
@@ -809,7 +739,7 @@ public final class PromisesTest {
     }
 
     private static void sold() {
-        promise = 15;
+        promise(15);
         SunBills x = made(TOWN);
         is("5", x.sold(0), 5);
         is("not by then", x.sold(2), -2);
@@ -834,7 +764,7 @@ public final class PromisesTest {
     }
 
     private static void credit() {
-        promise = 16;
+        promise(16);
         SunBills x = made("kind s 0 1;house a 0 1 0;law price 2 - date;term 99;");
         // 2, 1, 0, -1, -2, -3: in sum 2 3 3 2 0 -3
         is("in 6 days", x.credit(0), 6);
@@ -857,7 +787,7 @@ public final class PromisesTest {
     }
 
     private static void plan() {
-        promise = 17;
+        promise(17);
         SunBills x = made(TOWN);
         is("r on day 0", x.plan(3, 0), 0);
         is("s on day 1", x.plan(3, 1), 1);
@@ -903,7 +833,7 @@ public final class PromisesTest {
     }
 
     private static void share() {
-        promise = 18;
+        promise(18);
         SunBills x = made("kind s 1 5;kind z 0 1;house a 0 2 0;house b 0 5 0;house c 0 9 0;house d 0 9 0;house e 0 0 0;house f 0 7 0;");
         // of a, b, c: 2/3; 2/3 + 3/2; 2/3 + 3/2 + 4
         is("a above", x.share(7, 0, 0, 0), 2);
@@ -939,7 +869,7 @@ public final class PromisesTest {
     }
 
     private static void waits() {
-        promise = 19;
+        promise(19);
         SunBills x = made(TOWN);
         is("0 days", x.waits(0, 0), 0);
         is("0 days", x.waits(0, 1), 1);
@@ -974,7 +904,7 @@ public final class PromisesTest {
     }
 
     private static void came() {
-        promise = 20;
+        promise(20);
         SunBills x = made(TOWN);
         is("10 + 10", x.came(0, 2, 60), 1);
         is("10 + 4", x.came(0, 2, 42), 2);
@@ -1001,7 +931,7 @@ public final class PromisesTest {
     }
 
     private static void likely() {
-        promise = 21;
+        promise(21);
         SunBills x = made(TOWN);
         is("1 - 36/81", x.likely(1, 2, 0), 5);
         is("1 - 36/81", x.likely(1, 2, 1), 9);
@@ -1028,7 +958,7 @@ public final class PromisesTest {
     }
 
     private static void rests() {
-        promise = 22;
+        promise(22);
         SunBills x = made(TOWN);
         is("both look", x.rests(0, 1, 0), 1);
         is("alike", x.rests(0, 0, 0), -1);
@@ -1045,7 +975,7 @@ public final class PromisesTest {
     }
 
     private static void rest() {
-        promise = 23;
+        promise(23);
         SunBills x = made("kind w 14 1;house a 0 2 0;house b 0 2 0;house c 0 9 0;house d 0 0 0;kind n 0 1;");
         is("first", x.rest(0, 1, 0, 0), 0);
         is("second", x.rest(0, 1, 0, 1), 1);
@@ -1078,7 +1008,7 @@ public final class PromisesTest {
     }
 
     private static void richest() {
-        promise = 24;
+        promise(24);
         SunBills x = made("kind s 10 1;house a 50 1 0;house b 60 2 0;house c 50 0 0;term 3;");
         is("b", x.richest(), 1);
         x.go(1);
@@ -1096,7 +1026,7 @@ public final class PromisesTest {
     }
 
     private static void leave() {
-        promise = 25;
+        promise(25);
         SunBills x = made("kind s 1 1;kind z 0 1;house a 0 6 0;house b 0 3 0;house c 0 9 0;house d 0 2 0;");
         // a, c: 9, half each 4.5: neither
         is("nobody", x.leave(5, 0), -2);
@@ -1125,7 +1055,7 @@ public final class PromisesTest {
     // ---- promises 26 to 33
 
     private static void blinds() {
-        promise = 26;
+        promise(26);
         SunBills x = made(TOWN);
         is("a and b", x.blinds(5, 0), 3);
         is("none is sold up then", x.blinds(5, 1), 0);
@@ -1152,7 +1082,7 @@ public final class PromisesTest {
     }
 
     private static void among() {
-        promise = 27;
+        promise(27);
         SunBills x = made("kind s 10 1;house a 5 0 0;house b 7 0 0;house c 12 0 0;house d 7 1 0;term 2;");
         is("one is enough", x.among(12), 4);
         is("the least bits of one", x.among(7), 2);
@@ -1174,7 +1104,7 @@ public final class PromisesTest {
     }
 
     private static void rescue() {
-        promise = 28;
+        promise(28);
         SunBills x = made(TOWN);
         is("it can't be", x.rescue(), -2);
         x = made("kind s 10 1;house a 15 2 0;house b 5 0 0;house c 3 1 0;term 1;");
@@ -1200,7 +1130,7 @@ public final class PromisesTest {
     }
 
     private static void termIn() {
-        promise = 29;
+        promise(29);
         SunBills x = made("term 7;");
         is("7", x.termIn(), 7);
         x.go(6);
@@ -1212,7 +1142,7 @@ public final class PromisesTest {
     }
 
     private static void often() {
-        promise = 30;
+        promise(30);
         SunBills x = made(TOWN);
         is("s", x.often(0, 5), 3);
         is("r", x.often(1, 5), 1);
@@ -1230,7 +1160,7 @@ public final class PromisesTest {
     }
 
     private static void owes() {
-        promise = 31;
+        promise(31);
         SunBills x = made(TOWN);
         // 12, 42, 72: more than 50 in 3 days
         is("a", x.owes(0), 3);
@@ -1247,7 +1177,7 @@ public final class PromisesTest {
     }
 
     private static void have() {
-        promise = 32;
+        promise(32);
         SunBills x = made(TOWN);
         x.go(1);
         // a 50 - 12, b 20 - 24
@@ -1263,7 +1193,7 @@ public final class PromisesTest {
     }
 
     private static void dearest() {
-        promise = 33;
+        promise(33);
         is("50, 12, 0", made(TOWN).dearest(), 0);
         is("the first of several", made("kind a 3 2;kind b 2 6;kind c 4 3;").dearest(), 1);
         is("all 0", made("kind a 3 0;kind b 0 6;").dearest(), 0);
@@ -1273,7 +1203,7 @@ public final class PromisesTest {
     // ---- promises 34 to 44
 
     private static void note() {
-        promise = 34;
+        promise(34);
         SunBills x = made(TOWN);
         is("first", x.note(0, 0, 0, true), 0);
         is("second", x.note(99, 2, 999, false), 1);
@@ -1291,7 +1221,7 @@ public final class PromisesTest {
     }
 
     private static void strike() {
-        promise = 35;
+        promise(35);
         SunBills x = made(TOWN);
         is("no note", x.strike(0), -1);
         x.note(0, 0, 12, true);
@@ -1315,7 +1245,7 @@ public final class PromisesTest {
     }
 
     private static void known() {
-        promise = 36;
+        promise(36);
         SunBills x = made(TOWN);
         is("by none of none", x.known(0), true);
         is("1 of none", x.known(1), false);
@@ -1337,7 +1267,7 @@ public final class PromisesTest {
     }
 
     private static void fits() {
-        promise = 37;
+        promise(37);
         SunBills x = made(TOWN);
         is("all, whatever is told", x.fits(0), 7);
         x.note(5, 1, 24, true);
@@ -1354,7 +1284,7 @@ public final class PromisesTest {
     }
 
     private static void ask() {
-        promise = 38;
+        promise(38);
         SunBills x = made("kind a 1 1;kind b 2 1;kind c 2 1;kind d 3 1;house h 0 0 0;house i 0 1 0;house j 0 2 0;");
         is("i tells most, the first of several", x.ask(0, 0), 1);
         is("b and c are alike", x.ask(0, 1), 2);
@@ -1375,7 +1305,7 @@ public final class PromisesTest {
     }
 
     private static void chance() {
-        promise = 39;
+        promise(39);
         // The only number of each time is odd or even: kind b is dear. From seed 0 on: 0, 21468, 9988, 22117, 3498, 16927,
         // 16207, 26988, 6945, 32414: even but for 22117, 16927, 16207, 6945.
         SunBills x = made("kind a 0 1;kind b 9 1;house h 8 1 0;house i 9 1 0;term 1;");
@@ -1400,7 +1330,7 @@ public final class PromisesTest {
     }
 
     private static void tried() {
-        promise = 40;
+        promise(40);
         SunBills x = made(TOWN);
         is("all blinds down", x.tried(0, 0, 5), 85);
         is("worth 0", x.tried(1, 0, 5), 85);
@@ -1428,7 +1358,7 @@ public final class PromisesTest {
     }
 
     private static void undo() {
-        promise = 41;
+        promise(41);
         SunBills x = made(TOWN);
         is("none", x.undo(), -1);
         x.send(2);
@@ -1466,7 +1396,7 @@ public final class PromisesTest {
     }
 
     private static void keep() {
-        promise = 42;
+        promise(42);
         SunBills x = made(TOWN);
         is("day 0", x.keep(), 0);
         x.go(3);
@@ -1479,7 +1409,7 @@ public final class PromisesTest {
     }
 
     private static void back() {
-        promise = 43;
+        promise(43);
         SunBills x = made(TOWN + "seed 4242;");
         is("none", x.back(), -1);
         x.go(6);
@@ -1532,7 +1462,7 @@ public final class PromisesTest {
     }
 
     private static void count() {
-        promise = 44;
+        promise(44);
         SunBills x = made(TOWN + "law look 1 + 1;law use eager;");
         x.go(5);
         x.blind(2);
