@@ -1012,10 +1012,10 @@ public final class SunBills {
 
         /** Looked at ahead, since the product itself may be more than a long holds. */
         private static long product(long left, long right) {
-            if (left == 0) {
+            long size = left < 0 ? -left : left;
+            if (size == 0) {
                 return 0;
             }
-            long size = left < 0 ? -left : left;
             long most = LIMIT / size;
             return right > most || right < -most ? ERROR : left * right;
         }
@@ -1871,73 +1871,65 @@ public final class SunBills {
 
     // ---- WORKS laid on DAYS
 
+    /**
+     * What a WORK costs hangs on its HOUSE and KIND, not on its DAY: so of the WORKS that want a KIND the cheapest, the
+     * first of several, have its DAYS, in order.
+     */
     private static final class Planner {
         static final int DAYS = 8;
-        static final int SETS = 1 << DAYS;
-        /** One WORK more outweighs whatever all of them cost. */
-        static final int LAID = 10000;
 
         /** The KINDS of the DAYS to lay WORKS on. */
         final int[] kinds = new int[DAYS];
-        /** The best that the WORKS from one on come to, by the DAYS that are taken. */
-        final int[] best = new int[(MOST + 1) * SETS];
         final int[] chosen = new int[MOST];
         int laid;
         int sum;
 
         void lay(Book book, int n) {
-            for (int taken = 0; taken < SETS; taken++) {
-                best[book.works * SETS + taken] = 0;
-            }
-            for (int work = book.works - 1; work >= 0; work--) {
-                for (int taken = 0; taken < 1 << n; taken++) {
-                    best[work * SETS + taken] = bestOf(book, n, work, taken);
-                }
-            }
-            choose(book, n);
-        }
-
-        private int bestOf(Book book, int n, int work, int taken) {
-            int most = best[(work + 1) * SETS + taken];
-            for (int day = 0; day < n; day++) {
-                if (isFree(book, work, day, taken)) {
-                    most = Math.max(most, bestOn(book, work, day, taken));
-                }
-            }
-            return most;
-        }
-
-        private boolean isFree(Book book, int work, int day, int taken) {
-            return !isAmong(day, taken) && kinds[day] == book.workKind[work];
-        }
-
-        /** What the WORKS from this one on come to, if it is laid on that DAY. */
-        private int bestOn(Book book, int work, int day, int taken) {
-            return LAID - cost(book, work) + best[(work + 1) * SETS + (taken | (1 << day))];
-        }
-
-        private static int cost(Book book, int work) {
-            return book.alone(book.workHouse[work], book.workKind[work]);
-        }
-
-        /** WORKS in order, each on the first DAY by which the best still comes. */
-        private void choose(Book book, int n) {
             int taken = 0;
             laid = 0;
             sum = 0;
             for (int work = 0; work < book.works; work++) {
-                chosen[work] = NOT_THERE;
-                for (int day = 0; day < n && chosen[work] == NOT_THERE; day++) {
-                    if (isFree(book, work, day, taken) && bestOn(book, work, day, taken) == best[work * SETS + taken]) {
-                        chosen[work] = day;
-                    }
-                }
+                chosen[work] = hasDay(book, n, work) ? firstFree(book, n, work, taken) : NOT_THERE;
                 if (chosen[work] != NOT_THERE) {
                     taken |= 1 << chosen[work];
                     laid++;
                     sum += cost(book, work);
                 }
             }
+        }
+
+        /** Whether there are more DAYS of its KIND than WORKS that have one ahead of it. */
+        private boolean hasDay(Book book, int n, int work) {
+            int left = 0;
+            for (int day = 0; day < n; day++) {
+                if (kinds[day] == book.workKind[work]) {
+                    left++;
+                }
+            }
+            for (int other = 0; other < book.works; other++) {
+                if (book.workKind[other] == book.workKind[work] && comesAhead(book, other, work)) {
+                    left--;
+                }
+            }
+            return left > 0;
+        }
+
+        private static boolean comesAhead(Book book, int other, int work) {
+            int more = cost(book, other) - cost(book, work);
+            return more < 0 || (more == 0 && other < work);
+        }
+
+        private int firstFree(Book book, int n, int work, int taken) {
+            for (int day = 0; day < n; day++) {
+                if (!isAmong(day, taken) && kinds[day] == book.workKind[work]) {
+                    return day;
+                }
+            }
+            return NOT_THERE;
+        }
+
+        private static int cost(Book book, int work) {
+            return book.alone(book.workHouse[work], book.workKind[work]);
         }
     }
 

@@ -3,7 +3,7 @@ import java.lang.management.ManagementFactory;
 /** All calls of a run live in one room: the calls make nothing, whatever they are asked. */
 public final class RoomTest {
     private static final int OBJECTS = 200;
-    private static final long MOST_BYTES_OF_ONE = 40000;
+    private static final long MOST_BYTES_OF_ONE = 10000;
     private static final String TEXT = "kind a 9 9;kind b 8 8;kind c 7 9;kind d 6 6;kind e 5 5;kind f 99 1;"
         + "house a 999 9 9;house b 888 8 8;house c 777 7 7;house d 666 6 6;house e 555 5 5;house f 99 1 99;"
         + "work a a;work b b;work c c;work d d;work e a;work f a;term 7;seed 7;"
