@@ -830,6 +830,18 @@ public final class PromisesTest extends Checks {
         is("c", x.plan(4, 5), 3);
         is("eight days, six works", x.plan(8, 6), 6);
         is("the last one", x.plan(8, 5), 5);
+        // A dear one gives way to a cheap one behind it, however cheap the first one is.
+        x = made("kind s 1 1;house a 1 1 0;house b 1 3 0;house c 1 2 0;work a s;work b s;work c s;");
+        is("a and c", x.plan(2, 7), 3);
+        is("a", x.plan(2, 0), 0);
+        is("b has none", x.plan(2, 1), -2);
+        is("c", x.plan(2, 2), 1);
+        // Of WORTH 0 all are as cheap: the first ones, whoever is more eager.
+        x = made("kind z 0 1;house a 1 9 0;house b 1 0 0;work a z;work b z;work a z;");
+        is("the first", x.plan(2, 0), 0);
+        is("the second", x.plan(2, 1), 1);
+        is("no third", x.plan(2, 2), -2);
+        is("for nothing", x.plan(2, 7), 0);
     }
 
     private static void share() {
